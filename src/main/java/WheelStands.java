@@ -28,10 +28,7 @@ public final class WheelStands {
     // ---- stands
 
     public int stand(int n) {
-        if (town.standCount >= Town.MOST_STANDS || n < Stand.FEWEST_DOCKS || n > Stand.MOST_DOCKS) {
-            return NONE;
-        }
-        return town.addStand(n);
+        return n < Stand.FEWEST_DOCKS || n > Stand.MOST_DOCKS ? NONE : town.addStand(n);
     }
 
     public boolean length(int a, int b, int l) {
@@ -108,10 +105,7 @@ public final class WheelStands {
 
     public int put(int kind, int stand, int dock) {
         Stand s = town.standAt(stand);
-        if (town.wheelCount >= Town.MOST_WHEELS || s == null || kind < Wheel.PLAIN || kind > Wheel.CHILD) {
-            return NONE;
-        }
-        if (!s.isFree(dock, Wheel.sizeOf(kind))) {
+        if (s == null || kind < Wheel.PLAIN || kind > Wheel.CHILD || !s.isFree(dock, Wheel.sizeOf(kind))) {
             return NONE;
         }
         return town.addWheel(kind, s, dock);
@@ -241,8 +235,7 @@ public final class WheelStands {
     // ---- carts
 
     public int cart(int load, int stand) {
-        if (town.cartCount >= Town.MOST_CARTS || load < 1 || load > Cart.MOST_LOAD
-                || town.standAt(stand) == null) {
+        if (load < 1 || load > Cart.MOST_LOAD || town.standAt(stand) == null) {
             return NONE;
         }
         return town.addCart(load, stand);
@@ -305,11 +298,7 @@ public final class WheelStands {
 
     public boolean demand(int stand, int hour, int bring, int want) {
         Stand s = town.standAt(stand);
-        if (s == null || hour < 0 || hour >= Demand.HOURS || !Demand.allows(bring) || !Demand.allows(want)) {
-            return false;
-        }
-        s.demand.tellHour(hour, bring, want);
-        return true;
+        return s != null && s.demand.tellHour(hour, bring, want);
     }
 
     public int runs(int stand, int w, int what) {
@@ -443,7 +432,6 @@ public final class WheelStands {
 
         Wheel(int itsNumber) {
             number = itsNumber;
-            setUp(PLAIN);
         }
 
         void setUp(int itsKind) {
@@ -526,7 +514,7 @@ public final class WheelStands {
             wanting = new int[HOURS];
         }
 
-        static boolean allows(int n) {
+        private static boolean allows(int n) {
             return n >= 0 && n <= MOST;
         }
 
@@ -544,12 +532,14 @@ public final class WheelStands {
             System.arraycopy(d.wanting, 0, wanting, 0, HOURS);
         }
 
-        void tellHour(int hour, int bring, int want) {
-            if (hour >= 0 && hour < HOURS) {
-                known = true;
-                bringing[hour] = bring;
-                wanting[hour] = want;
+        boolean tellHour(int hour, int bring, int want) {
+            if (hour < 0 || hour >= HOURS || !allows(bring) || !allows(want)) {
+                return false;
             }
+            known = true;
+            bringing[hour] = bring;
+            wanting[hour] = want;
+            return true;
         }
 
         /** What 0: how many are turned away, 1: the first hour of that, 2: the wheels at the end. */
@@ -628,7 +618,6 @@ public final class WheelStands {
             lengths = new int[Town.MOST_STANDS];
             others = new int[MOST_OTHERS];
             demand = new Demand();
-            setUp(0);
         }
 
         void setUp(int n) {
@@ -844,6 +833,7 @@ public final class WheelStands {
             return s == null || !s.hasDock(dock) ? null : wheelAt(s.content[dock]);
         }
 
+        /** The number of a new stand, or NONE if there are no more; likewise of a wheel and a cart. */
         int addStand(int docks) {
             if (standCount >= MOST_STANDS) {
                 return NONE;

@@ -22,6 +22,15 @@ final class Due {
         is(call, got ? 1 : 0, 0);
     }
 
+    /** That no difference was found. */
+    static void same(String call, String difference) {
+        asked++;
+        if (difference != null) {
+            wrong++;
+            System.out.println(call + ": " + difference);
+        }
+    }
+
     /** A new object with stands of so many docks each. */
     static WheelStands stands(int... docks) {
         WheelStands x = new WheelStands();

@@ -1,17 +1,16 @@
+import java.util.ArrayList;
+import java.util.List;
 import java.util.Random;
-import java.util.Set;
 
 /**
  * Runs of calls drawn from fixed seeds, each answer beside that of PlainModel;
- * every so often all that can be told is compared too.
+ * every so often all that can be told is compared too, on objects made anew by
+ * the same calls, since none answers for more than 512.
  */
 public final class RandomRunsTest {
     private static final int ALL_RUNS = 3000;
-    private static final int CALLS = 512;
-    private static final String[] NAMES = {
-        "stand", "length", "next", "tear", "block", "dock", "tell", "put", "charge", "wheel", "fault",
-        "test", "mend", "doubt", "hire", "end", "hour", "cart", "drive", "pick", "fetch", "drop", "load",
-        "demand", "runs", "shortage", "want", "plan", "round", "carry", "image", "again", "count"};
+    private static final int CALLS = Asked.MOST_CALLS;
+    private static final String[] NAMES = Call.NAMES;
     private static final int[] ODD = {
         Integer.MIN_VALUE, Integer.MAX_VALUE, -1, -2, -100, 8, 12, 13, 24, 60, 61, 99, 100, 999, 1000};
     /** How likely each call is in the three sorts of runs: all alike, hires, rounds. */
@@ -20,14 +19,15 @@ public final class RandomRunsTest {
         {2, 4, 4, 1, 3, 0, 1, 12, 4, 0, 1, 2, 2, 2, 25, 25, 2, 1, 2, 2, 5, 3, 0, 0, 0, 0, 0, 0, 0, 0, 1, 1, 0},
         {2, 8, 0, 0, 2, 0, 0, 14, 0, 0, 1, 0, 0, 0, 3, 3, 0, 2, 4, 1, 2, 4, 1, 0, 0, 0, 20, 12, 2, 12, 1, 1, 0}};
 
-    private static final Set<String> YES_OR_NO = Set.of("length", "tear", "block", "fault", "mend", "fetch",
-        "demand", "want", "image", "again");
+    /** Calls that change nothing, and tell most of what is there. */
+    private static final List<Call> READINGS = readings();
 
     private long longRounds;
     private final long[] granted = new long[NAMES.length];
     private final long[] refused = new long[NAMES.length];
     private Random dice;
     private WheelStands x;
+    private final List<Call> made = new ArrayList<>();
     private PlainModel y;
     private int stands;
     private int wheels;
@@ -53,6 +53,7 @@ public final class RandomRunsTest {
         dice = new Random(seed);
         x = new WheelStands();
         y = new PlainModel();
+        made.clear();
         int[] likely = LIKELY[seed % LIKELY.length];
         int sum = 0;
         for (int n : likely) {
@@ -62,7 +63,8 @@ public final class RandomRunsTest {
         for (int i = 0; i < first; i++) {
             both(0, 2 + dice.nextInt(11), 0, 0, 0, seed);
         }
-        for (int i = first; i < CALLS; i++) {
+        while (made.size() < CALLS) {
+            int parts = made.size() / 128;
             int drawn = dice.nextInt(sum);
             int call = 0;
             while (drawn >= likely[call]) {
@@ -70,7 +72,7 @@ public final class RandomRunsTest {
                 call++;
             }
             draw(call, seed);
-            if (i % 128 == 127) {
+            if (made.size() / 128 > parts && made.size() < CALLS) {
                 compareAll(seed);
             }
         }
@@ -85,13 +87,13 @@ public final class RandomRunsTest {
     }
 
     private void draw(int call, int seed) {
-        stands = x.count(0);
-        wheels = x.count(1);
-        carts = x.count(2);
+        stands = y.count(0);
+        wheels = y.count(1);
+        carts = y.count(2);
         int s = below(stands);
         int w = below(wheels);
         int c = below(carts);
-        int docks = Math.max(2, x.tell(s, 0));
+        int docks = Math.max(2, y.tell(s, 0));
         switch (NAMES[call]) {
             case "stand": both(call, odd(2 + dice.nextInt(11)), 0, 0, 0, seed); break;
             case "length": both(call, s, below(stands), length(), 0, seed); break;
@@ -108,7 +110,7 @@ public final class RandomRunsTest {
             case "end": drawEnd(call, w, s, seed); break;
             case "cart": both(call, odd(1 + dice.nextInt(8)), s, 0, 0, seed); break;
             case "drive": both(call, c, s, 0, 0, seed); break;
-            case "pick": both(call, c, below(x.tell(x.load(c, 1), 0)), 0, 0, seed); break;
+            case "pick": both(call, c, below(y.tell(y.load(c, 1), 0)), 0, 0, seed); break;
             case "fetch": drawFetch(call, c, w, seed); break;
             case "load": both(call, c, below(13), 0, 0, seed); break;
             case "demand": both(call, s, below(24), persons(), persons(), seed); break;
@@ -144,7 +146,7 @@ public final class RandomRunsTest {
     private void drawHire(int call, int s, int docks, int seed) {
         int child = -1;
         for (int d = 0; d < docks && dice.nextInt(3) > 0; d++) {
-            if (x.wheel(x.dock(s, d), 0) == 3) {
+            if (y.wheel(y.dock(s, d), 0) == 3) {
                 child = d;
             }
         }
@@ -153,7 +155,7 @@ public final class RandomRunsTest {
 
     private void drawEnd(int call, int w, int s, int seed) {
         int hired = w;
-        for (int i = 0; i < wheels && x.wheel(hired, 2) != 2; i++) {
+        for (int i = 0; i < wheels && y.wheel(hired, 2) != 2; i++) {
             hired = i;
         }
         both(call, odd(hired), s, 0, 0, seed);
@@ -161,11 +163,11 @@ public final class RandomRunsTest {
 
     private void drawFetch(int call, int c, int w, int seed) {
         int lost = w;
-        for (int i = 0; i < wheels && x.wheel(lost, 2) != 3; i++) {
+        for (int i = 0; i < wheels && y.wheel(lost, 2) != 3; i++) {
             lost = i;
         }
-        if (x.wheel(lost, 2) == 3 && dice.nextInt(4) > 0) {
-            both(18, c, x.wheel(lost, 3), 0, 0, seed);
+        if (y.wheel(lost, 2) == 3 && dice.nextInt(4) > 0 && made.size() + 1 < CALLS) {
+            both(18, c, y.wheel(lost, 3), 0, 0, seed);
         }
         both(call, c, odd(lost), 0, 0, seed);
     }
@@ -174,72 +176,39 @@ public final class RandomRunsTest {
     private void drawWant(int call, int s, int seed) {
         int lacking = 0;
         for (int i = 0; i < stands; i++) {
-            if (i != s && x.tell(i, 5) != -1) {
-                lacking += x.tell(i, 5) - x.tell(i, 3);
+            if (i != s && y.tell(i, 5) != -1) {
+                lacking += y.tell(i, 5) - y.tell(i, 3);
             }
         }
-        int even = x.tell(s, 3) - lacking;
+        int even = y.tell(s, 3) - lacking;
         boolean evenDoes = even >= 0 && even <= 12 && dice.nextInt(3) > 0;
-        int near = Math.max(0, x.tell(s, 3) + dice.nextInt(5) - 2);
+        int near = Math.max(0, y.tell(s, 3) + dice.nextInt(5) - 2);
         both(call, s, odd(evenDoes ? even : dice.nextInt(8) == 0 ? -1 : near), 0, 0, seed);
     }
 
-    private void both(int call, int a, int b, int c, int d, int seed) {
-        long got = ask(call, a, b, c, d);
-        long due = askModel(call, a, b, c, d);
-        if (due < 0 || due == 0 && YES_OR_NO.contains(NAMES[call])) {
-            refused[call]++;
+    private void both(int number, int a, int b, int c, int d, int seed) {
+        Call call = new Call(NAMES[number], a, b, c, d);
+        made.add(call);
+        long got = call.on(x);
+        long due = askModel(call);
+        if (call.isRefusal(due)) {
+            refused[number]++;
         } else {
-            granted[call]++;
+            granted[number]++;
         }
-        if (NAMES[call].equals("carry") && due > 0 && y.round(5) != -1) {
+        if (call.name().equals("carry") && due > 0 && y.round(5) != -1) {
             longRounds++;
         }
         if (got != due) {
-            Due.is("seed " + seed + ": " + NAMES[call] + "(" + a + ", " + b + ", " + c + ", " + d + ")", got, due);
+            Due.is("seed " + seed + ": " + call, got, due);
         }
     }
 
-    private long ask(int call, int a, int b, int c, int d) {
-        switch (NAMES[call]) {
-            case "stand": return x.stand(a);
-            case "length": return x.length(a, b, c) ? 1 : 0;
-            case "next": return x.next(a, b);
-            case "tear": return x.tear(a, b) ? 1 : 0;
-            case "block": return x.block(a, b, c == 1) ? 1 : 0;
-            case "dock": return x.dock(a, b);
-            case "tell": return x.tell(a, b);
-            case "put": return x.put(a, b, c);
-            case "charge": return x.charge(a, b);
-            case "wheel": return x.wheel(a, b);
-            case "fault": return x.fault(a) ? 1 : 0;
-            case "test": return x.test(a);
-            case "mend": return x.mend(a) ? 1 : 0;
-            case "doubt": return x.doubt(a, b);
-            case "hire": return x.hire(a, b, c);
-            case "end": return x.end(a, b);
-            case "hour": return x.hour();
-            case "cart": return x.cart(a, b);
-            case "drive": return x.drive(a, b);
-            case "pick": return x.pick(a, b);
-            case "fetch": return x.fetch(a, b) ? 1 : 0;
-            case "drop": return x.drop(a);
-            case "load": return x.load(a, b);
-            case "demand": return x.demand(a, b, c, d) ? 1 : 0;
-            case "runs": return x.runs(a, b, c);
-            case "shortage": return x.shortage(a);
-            case "want": return x.want(a, b) ? 1 : 0;
-            case "plan": return x.plan(a);
-            case "round": return x.round(a);
-            case "carry": return x.carry(a);
-            case "image": return x.image(a) ? 1 : 0;
-            case "again": return x.again(a) ? 1 : 0;
-            default: return x.count(a);
-        }
-    }
-
-    private long askModel(int call, int a, int b, int c, int d) {
-        switch (NAMES[call]) {
+    private long askModel(Call call) {
+        int a = call.a();
+        int b = call.b();
+        int c = call.c();
+        switch (call.name()) {
             case "stand": return y.stand(a);
             case "length": return y.length(a, b, c) ? 1 : 0;
             case "next": return y.next(a, b);
@@ -263,7 +232,7 @@ public final class RandomRunsTest {
             case "fetch": return y.fetch(a, b) ? 1 : 0;
             case "drop": return y.drop(a);
             case "load": return y.load(a, b);
-            case "demand": return y.demand(a, b, c, d) ? 1 : 0;
+            case "demand": return y.demand(a, b, c, call.d()) ? 1 : 0;
             case "runs": return y.runs(a, b, c);
             case "shortage": return y.shortage(a);
             case "want": return y.want(a, b) ? 1 : 0;
@@ -276,34 +245,42 @@ public final class RandomRunsTest {
         }
     }
 
-    private void compareAll(int seed) {
+    private static List<Call> readings() {
+        List<Call> all = new ArrayList<>();
         for (int what = -1; what <= 9; what++) {
-            same(seed, "count", what, 0, x.count(what), y.count(what));
-            same(seed, "round", what, 0, x.round(what), y.round(what));
+            all.add(new Call("count", what, 0, 0, 0));
+            all.add(new Call("round", what, 0, 0, 0));
+            addFor(all, "tell", 12, what);
+            addFor(all, "wheel", 60, what);
+        }
+        for (int what = -1; what <= 12; what++) {
+            addFor(all, "dock", 12, what);
+            addFor(all, "load", 3, what);
             for (int s = 0; s < 12; s++) {
-                same(seed, "tell", s, what, x.tell(s, what), y.tell(s, what));
-            }
-            for (int w = 0; w < 60; w++) {
-                same(seed, "wheel", w, what, x.wheel(w, what), y.wheel(w, what));
+                all.add(new Call("runs", s, what, 2, 0));
             }
         }
-        for (int s = 0; s < 12; s++) {
-            same(seed, "shortage", s, 0, x.shortage(s), y.shortage(s));
-            for (int d = -1; d <= 12; d++) {
-                same(seed, "dock", s, d, x.dock(s, d), y.dock(s, d));
-                same(seed, "runs at the end", s, d, x.runs(s, d, 2), y.runs(s, d, 2));
-            }
-        }
-        for (int c = 0; c < 3; c++) {
-            for (int what = -1; what < 13; what++) {
-                same(seed, "load", c, what, x.load(c, what), y.load(c, what));
-            }
+        addFor(all, "shortage", 12, 0);
+        return all;
+    }
+
+    private static void addFor(List<Call> all, String name, int many, int what) {
+        for (int i = 0; i < many; i++) {
+            all.add(new Call(name, i, what, 0, 0));
         }
     }
 
-    private static void same(int seed, String call, int a, int b, long got, long due) {
-        if (got != due) {
-            Due.is("seed " + seed + ", all told: " + call + "(" + a + ", " + b + ")", got, due);
+    private void compareAll(int seed) {
+        Asked again = Asked.after(made);
+        for (Call call : READINGS) {
+            if (again.calls.size() == CALLS) {
+                again = Asked.after(made);
+            }
+            long got = again.ask(call);
+            long due = askModel(call);
+            if (got != due) {
+                Due.is("seed " + seed + ", all told after " + made.size() + ": " + call, got, due);
+            }
         }
     }
 }

@@ -119,17 +119,21 @@ public final class WheelsTest {
 
     /** The product is a float, rounded as floats are, before it is cut. */
     private static void promise10ChargeRounds() {
-        WheelStands x = town();
-        x.put(1, 0, 0);
         for (int t = 0; t <= 1000; t++) {
+            WheelStands x = town();
+            x.put(1, 0, 0);
             int near = Float.floatToRawIntBits(t / 1000f);
             for (int bits = Math.max(0, near - 3); bits <= near + 3; bits++) {
                 float value = Float.intBitsToFloat(bits);
                 charges(x, 0, bits, value > 1f ? -1 : (int) (value * 1000.0f));
             }
         }
-        for (int bits = 0; bits <= 0x3F800000 && bits >= 0; bits += 99991) {
-            charges(x, 0, bits, (int) (Float.intBitsToFloat(bits) * 1000.0f));
+        for (int first = 0; first <= 0x3F800000; first += 100 * 99991) {
+            WheelStands x = town();
+            x.put(1, 0, 0);
+            for (int bits = first; bits <= 0x3F800000 && bits < first + 100 * 99991; bits += 99991) {
+                charges(x, 0, bits, (int) (Float.intBitsToFloat(bits) * 1000.0f));
+            }
         }
     }
 

@@ -88,7 +88,8 @@ public final class CartsEdgesTest {
     }
 
     private static void promise21NoWheelThere() {
-        Towns.rich().refusedAll(-1, "pick(0, 1); pick(0, 5); pick(1, 2)").due("pick(0, 0)", 10).refused("pick(0, 0)", -1);
+        Towns.rich().refusedAll(-1, "pick(0, 1); pick(0, 5); pick(1, 2)").due("pick(0, 0)", 10)
+            .refused("pick(0, 0)", -1);
     }
 
     private static void promise21LoadJustEnough() {
@@ -98,9 +99,11 @@ public final class CartsEdgesTest {
     }
 
     private static void promise21LoadForCargo() {
-        Towns.rich().due("load(0, 2)", 1).due("pick(0, 4)", 3).due("load(0, 2)", 3).dues("load(0, #)", 3, 0, 3, 0, 2, 3, -1);
+        Towns.rich().due("load(0, 2)", 1).due("pick(0, 4)", 3).due("load(0, 2)", 3)
+            .dues("load(0, #)", 3, 0, 3, 0, 2, 3, -1);
         Towns.rich().does("pick(0, 0);").due("load(0, 2)", 2).refusedAll(-1, "pick(0, 3); pick(0, 4)");
-        new Run("stand(4); put(2, 0, 0); put(2, 0, 2); cart(1, 0); cart(2, 0);").refusedAll(-1, "pick(0, 0); pick(0, 1)")
+        new Run("stand(4); put(2, 0, 0); put(2, 0, 2); cart(1, 0); cart(2, 0);")
+            .refusedAll(-1, "pick(0, 0); pick(0, 1)")
             .due("pick(1, 1)", 0).refusedAll(-1, "pick(1, 2); pick(1, 3)").due("load(0, 2)", 0);
     }
 

@@ -24,6 +24,7 @@ public final class DemandsEdgesTest {
         promise27NoSuchStand();
         promise27Missing();
         promise27OfSeveralTheLeast();
+        promise27NoneIsEnough();
         promise27AllDocks();
         promise27NoDocksAtAll();
         promise27LessThanAreThere();
@@ -122,7 +123,8 @@ public final class DemandsEdgesTest {
     }
 
     private static void promise26ByTurnsFromEmpty() {
-        Run.ofStands(1, 2).does("demand(0, 6, 99, 99);").dues("runs(0, 0, #)", 0, -1, 0).dues("runs(0, 1, #)", 0, -1, 1);
+        Run.ofStands(1, 2).does("demand(0, 6, 99, 99);").dues("runs(0, 0, #)", 0, -1, 0)
+            .dues("runs(0, 1, #)", 0, -1, 1);
     }
 
     private static void promise26ThoseWhoAreLeft() {
@@ -156,6 +158,11 @@ public final class DemandsEdgesTest {
             .does("demand(0, 1, 4, 0);").due("shortage(0)", 2)
             .does("demand(0, 1, 7, 0);").due("shortage(0)", 2)
             .does("demand(0, 0, 2, 0);").due("shortage(0)", 0);
+    }
+
+    private static void promise27NoneIsEnough() {
+        Run.ofStands(1, 2).does("demand(0, 0, 1, 0); demand(0, 23, 0, 1);").due("shortage(0)", 0)
+            .does("demand(0, 23, 0, 2);").due("shortage(0)", 1).does("demand(0, 0, 2, 0);").due("shortage(0)", 0);
     }
 
     private static void promise27AllDocks() {

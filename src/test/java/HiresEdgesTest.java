@@ -89,7 +89,8 @@ public final class HiresEdgesTest {
 
     private static void promise16WithoutAnotherStand() {
         Run.ofStands(1, 5).does("put(1, 0, 0); put(2, 0, 1); charge(0, 0); charge(1, 0);")
-            .due("hire(0, 0, NONE)", 0).does("end(0, 0); stand(2);").refusedAll(-4, "hire(0, 0, NONE); hire(0, 1, NONE)");
+            .due("hire(0, 0, NONE)", 0).does("end(0, 0); stand(2);")
+            .refusedAll(-4, "hire(0, 0, NONE); hire(0, 1, NONE)");
         Run.ofStands(1, 5).does("put(2, 0, 1); charge(0, 0);").due("hire(0, 2, NONE)", 0);
     }
 
@@ -229,7 +230,8 @@ public final class HiresEdgesTest {
     private static void promise17RowIsMissing() {
         fullRow().does("tear(1, 0);").due("end(0, 1)", 101).due("wheel(0, 1)", 980)
             .dues("tell(#, 4)", 0, 1, 0, 0, 0, 0, 0, 0, 0, 0);
-        fullRow().does("tear(1, 0); next(1, 2);").due("end(0, 1)", 102).dues("tell(#, 4)", 0, 1, 1, 0, 0, 0, 0, 0, 0, 0);
+        fullRow().does("tear(1, 0); next(1, 2);").due("end(0, 1)", 102)
+            .dues("tell(#, 4)", 0, 1, 1, 0, 0, 0, 0, 0, 0, 0);
     }
 
     private static void promise17RowOfTheFirstAlone() {
@@ -243,7 +245,8 @@ public final class HiresEdgesTest {
         Run x = Run.ofStands(12, 2).does("put(0, 0, 0); put(0, 11, 1);");
         x.does("hire(0, 0, NONE);").due("end(0, 11)", 11).does("hire(11, 0, NONE); block(11, 0, true);")
             .due("end(0, 11)", 111).due("tell(11, 7)", 1)
-            .does("block(0, 0, true); block(0, 1, true); hire(11, 1, NONE);").due("end(1, 0)", 100).due("tell(0, 7)", 1);
+            .does("block(0, 0, true); block(0, 1, true); hire(11, 1, NONE);").due("end(1, 0)", 100)
+            .due("tell(0, 7)", 1);
     }
 
     private static void promise17ChargeDownToZero() {
@@ -277,7 +280,8 @@ public final class HiresEdgesTest {
         int[][] motor = {{0, 100}, {899, 999}, {900, 1000}, {901, 1000}, {999, 1000}, {1000, 1000}};
         int[][] cargo = {{0, 50}, {949, 999}, {950, 1000}, {951, 1000}, {999, 1000}, {1000, 1000}};
         for (int i = 0; i < motor.length; i++) {
-            new Run("stand(3); put(1, 0, 0); put(2, 0, 1);" + Towns.charge(0, motor[i][0]) + Towns.charge(1, cargo[i][0]))
+            new Run("stand(3); put(1, 0, 0); put(2, 0, 1);")
+                .does(Towns.charge(0, motor[i][0]) + Towns.charge(1, cargo[i][0]))
                 .due("hour()", 1).due("wheel(0, 1)", motor[i][1]).due("wheel(1, 1)", cargo[i][1]);
         }
         new Run("stand(2); put(0, 0, 0); put(3, 0, 1); hour();").due("wheel(0, 1)", 0).due("wheel(1, 1)", 0);

@@ -2,7 +2,8 @@
 public final class ImagesEdgesTest {
     /** Each is granted in the rich town, and again() must take it back; the round at hand and images are not in it. */
     private static final String[] CHANGES = {
-        "stand(2)", "length(0, 1, 51)", "length(3, 2, 998)", "next(0, 1)", "next(1, 0)", "tear(1, 0)", "tear(1, 1)",
+        "stand(2)", "length(0, 1, 51)", "length(3, 2, 998)", "next(0, 1)", "next(1, 0)", "tear(1, 0)",
+        "tear(1, 0); next(1, 3); next(1, 2)", "tear(1, 1)",
         "tear(0, 1)", "tear(2, 0)", "block(0, 1, true)", "block(0, 5, false)", "put(0, 0, 1)", "put(2, 0, 1)",
         "charge(3, 1056964608)", "charge(2, 0)", "charge(6, 1065353216)", "fault(0)", "fault(1)", "fault(2)",
         "fault(6)", "fault(10)", "test(7)", "test(3)", "test(2)", "mend(4)", "mend(7)", "hire(3, 0, NONE)",
@@ -24,6 +25,7 @@ public final class ImagesEdgesTest {
         promise33TheRoundAtHandStays();
         promise33ImagesStay();
         promise33AnEmptyImage();
+        promise33AnImageOfAnotherTown();
         promise33AFullImage();
         promise33TheHourBehindTheLast();
         promise34AnotherWhat();
@@ -91,6 +93,17 @@ public final class ImagesEdgesTest {
     private static void promise33AnEmptyImage() {
         new Run("image(0);").does(Towns.RICH).due("again(0)", 1).sameAs(new Run(""))
             .does("image(0); image(1); image(2); image(3);").does(Towns.RICH).sameAs(Towns.rich());
+    }
+
+    /** A town that has nothing in common with the rich one but the numbers. */
+    private static void promise33AnImageOfAnotherTown() {
+        String other = "stand(2); stand(9); stand(4); stand(12); length(0, 1, 3); length(2, 3, 4); next(0, 1);"
+            + "next(1, 0); next(2, 3); demand(1, 0, 9, 9); demand(0, 3, 4, 4); want(0, 2); want(1, NONE); put(2, 0, 0);"
+            + "put(0, 1, 8); put(3, 1, 3); put(1, 3, 11); put(3, 2, 0); cart(7, 1); cart(2, 3); pick(0, 8);"
+            + "pick(1, 11); hire(0, 1, NONE); block(2, 2, true); block(0, 0, true); fault(2); test(2); hour(); hour();";
+        new Run("image(0);").does(Towns.RICH).does("image(2); again(0);").does(other).does("image(0); again(2);")
+            .sameAs(Towns.rich()).due("again(0)", 1).sameAs(new Run(other))
+            .due("again(2)", 1).sameAs(Towns.rich());
     }
 
     private static void promise33AFullImage() {

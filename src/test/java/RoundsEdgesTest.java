@@ -28,6 +28,7 @@ public final class RoundsEdgesTest {
         promise31NoStandOutOfBalance();
         promise31SevenStands();
         promise31FromDockZeroOn();
+        promise31AsManyAsAreTooMany();
         promise31FullLoad();
         promise31LastRoom();
         promise31TwiceIsNothing();
@@ -52,7 +53,8 @@ public final class RoundsEdgesTest {
 
     /** The rich town with stands in balance but for 1, which lacks one, and 2, which has one too many. */
     private static Run rounds() {
-        return Towns.rich().does("mend(7); put(0, 2, 0); want(2, 1); want(3, NONE); plan(1);").dues("round(#)", 2, 1, -1);
+        return Towns.rich().does("mend(7); put(0, 2, 0); want(2, 1); want(3, NONE); plan(1);")
+            .dues("round(#)", 2, 1, -1);
     }
 
     private static void promise29NoStandOutOfBalance() {
@@ -85,7 +87,8 @@ public final class RoundsEdgesTest {
     }
 
     private static void promise29DocksJustEnough() {
-        String town = "stand(4); stand(4); put(0, 0, 0); put(0, 0, 1); put(0, 0, 2); want(0, 0); want(1, 3); cart(8, 0);";
+        String town = "stand(4); stand(4); put(0, 0, 0); put(0, 0, 1); put(0, 0, 2); want(0, 0); want(1, 3);"
+            + "cart(8, 0);";
         new Run(town).does("block(1, 0, true);").due("plan(0)", 999)
             .does("block(1, 2, true);").refused("plan(0)", -1).does("block(1, 2, false);").due("plan(0)", 999);
         new Run(town).does("put(2, 1, 2);").refused("plan(0)", -1).does("put(0, 1, 0);").refused("plan(0)", -1)
@@ -97,7 +100,8 @@ public final class RoundsEdgesTest {
     }
 
     private static void promise29LoadJustEnough() {
-        String town = "stand(4); stand(4); put(0, 0, 0); put(3, 0, 1); put(1, 0, 2); put(0, 0, 3); want(0, 0); want(1, 4);";
+        String town = "stand(4); stand(4); put(0, 0, 0); put(3, 0, 1); put(1, 0, 2); put(0, 0, 3); want(0, 0);"
+            + "want(1, 4);";
         new Run(town).does("cart(3, 0); cart(4, 0); cart(8, 1);").refused("plan(0)", -1).due("plan(1)", 999)
             .due("plan(2)", 1998).refused("plan(0)", -1)
             .does("want(0, 1); want(1, 3);").due("plan(0)", 999);
@@ -109,7 +113,8 @@ public final class RoundsEdgesTest {
             town += "put(0, 0, " + w + ");";
         }
         new Run(town).does("want(1, 8);").due("plan(0)", 999)
-            .does("put(0, 0, 8); want(1, 9);").refused("plan(0)", -1).does("want(0, 1); want(1, 8);").due("plan(0)", 999);
+            .does("put(0, 0, 8); want(1, 9);").refused("plan(0)", -1).does("want(0, 1); want(1, 8);")
+            .due("plan(0)", 999);
     }
 
     private static void promise29NothingAtTheEnd() {
@@ -145,7 +150,8 @@ public final class RoundsEdgesTest {
             + "want(3, 2); cart(2, 0);";
         new Run(town).due("plan(0)", 3 * 999).dues("round(#)", 1, 2, 3, -1)
             .does("length(0, 2, 998); length(1, 3, 998);").due("plan(0)", 998 + 999 + 998).dues("round(#)", 2, 1, 3, -1)
-            .does("length(0, 1, 998); length(2, 3, 998);").due("plan(0)", 998 + 999 + 998).dues("round(#)", 1, 2, 3, -1);
+            .does("length(0, 1, 998); length(2, 3, 998);").due("plan(0)", 998 + 999 + 998)
+            .dues("round(#)", 1, 2, 3, -1);
     }
 
     private static void promise29TheLeastSecondStand() {
@@ -225,6 +231,14 @@ public final class RoundsEdgesTest {
             .dues("wheel(2, #)", 3, 0, 0, 1, 1, 0, 0, -1).dues("load(0, #)", 2, 1, 0, 999, -1);
     }
 
+    private static void promise31AsManyAsAreTooMany() {
+        // There is load, room and wheels for more.
+        new Run("stand(5); stand(5); put(0, 0, 0); put(0, 0, 1); put(0, 0, 2); put(0, 0, 4); want(0, 3); want(1, 1);"
+                + "cart(8, 0);").due("carry(0)", 999).dues("dock(0, #)", -1, 1, 2, -1, 3, -3)
+            .dues("dock(1, #)", 0, -1, -1, -1, -1, -3).due("load(0, 2)", 0)
+            .does("want(0, 0); want(1, 4);").due("carry(0)", 1998).dues("dock(1, #)", 0, 1, 2, 3, -1, -3);
+    }
+
     private static void promise31FullLoad() {
         Run x = new Run("stand(12); stand(12); want(0, 4); want(1, 8); cart(8, 1);");
         for (int d = 0; d < 12; d++) {
@@ -242,6 +256,7 @@ public final class RoundsEdgesTest {
     }
 
     private static void promise31TwiceIsNothing() {
-        Towns.star(3).due("carry(0)", 30).due("carry(0)", 0).due("plan(0)", 0).due("load(0, 3)", 30).due("load(0, 1)", 3);
+        Towns.star(3).due("carry(0)", 30).due("carry(0)", 0).due("plan(0)", 0).due("load(0, 3)", 30)
+            .due("load(0, 1)", 3);
     }
 }

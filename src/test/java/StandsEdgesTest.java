@@ -198,8 +198,9 @@ public final class StandsEdgesTest {
     }
 
     private static void promise8Full() {
-        new Run("stand(12); stand(2); put(2, 0, 10);" + "put(0, 0, 0); put(1, 0, 1); put(3, 0, 2);"
-                + "put(2, 0, 3); put(2, 0, 5); put(2, 0, 7); block(0, 9, true);" + "want(0, 12);" + "next(0, 1);".repeat(8))
+        new Run("stand(12); stand(2); put(2, 0, 10); put(0, 0, 0); put(1, 0, 1); put(3, 0, 2);"
+                + "put(2, 0, 3); put(2, 0, 5); put(2, 0, 7); block(0, 9, true); want(0, 12);"
+                + "next(0, 1);".repeat(8))
             .dues("tell(0, #)", 12, 0, 7, 3, 0, 12, 8, 0)
             .does("block(0, 9, false);").due("tell(0, 1)", 1);
     }

@@ -95,7 +95,8 @@ public final class TermsEdgesTest {
     private static void term2DoubtsAtThatStandAlone() {
         Run.ofStands(2, 3).does("put(0, 0, 0); put(0, 0, 1); put(0, 0, 2); put(0, 1, 0); put(0, 1, 2);"
                 + "hire(0, 0, NONE);").dues("wheel(#, 5)", 0, 1, 1, 0, 0).does("hire(1, 2, NONE);")
-            .dues("wheel(#, 5)", 0, 1, 1, 1, 0);
+            .dues("wheel(#, 5)", 0, 1, 1, 1, 0).due("end(0, 0)", 0).does("hire(0, 2, NONE);")
+            .dues("wheel(#, 5)", 1, 2, 0, 1, 0);
     }
 
     private static void term2DoubtsInDocksAlone() {

@@ -179,7 +179,8 @@ public final class WheelsEdgesTest {
 
     private static void promise11OnAStreet() {
         Towns.rich().dues("wheel(6, #)", 1, 500, 3, 3, -1, 0, 0, -1, -3)
-            .due("end(0, 3)", 103).dues("wheel(0, #)", 0, 0, 3, 3, -1, 0, 0, -1).dues("wheel(1, #)", 3, 0, 3, 3, -1, 0, 0, -1);
+            .due("end(0, 3)", 103).dues("wheel(0, #)", 0, 0, 3, 3, -1, 0, 0, -1)
+            .dues("wheel(1, #)", 3, 0, 3, 3, -1, 0, 0, -1);
     }
 
     private static void promise12NoSuchWheel() {

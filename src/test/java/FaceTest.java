@@ -1,3 +1,4 @@
+import java.io.DataInputStream;
 import java.io.IOException;
 import java.lang.reflect.Constructor;
 import java.lang.reflect.Field;
@@ -29,8 +30,12 @@ public final class FaceTest {
         "\\b(equals|hashCode|toString|instanceof|volatile|transient|native|strictfp|protected)\\b",
         "\\bMath\\.(?!max\\b|min\\b)", "\\bSystem\\.(?!arraycopy\\b)", "Exact\\b", "[^\\x00-\\x7F]"};
 
+    /** The whole library that the class uses. */
+    private static final List<String> LIBRARY = List.of("java/lang/Object", "java/lang/Math", "java/lang/System");
+
     public static void main(String[] args) throws IOException {
         members();
+        library();
         String source = Files.readString(Path.of(args.length > 0 ? args[0] : "src/main/java/WheelStands.java"));
         String code = source.replaceAll("(?s)/\\*.*?\\*/", "").replaceAll("//[^\n]*", "");
         for (String banned : BANNED) {
@@ -86,6 +91,45 @@ public final class FaceTest {
             types.add(type.getName());
         }
         return m.getReturnType().getName() + " " + m.getName() + "(" + String.join(",", types) + ")";
+    }
+
+    /** No compiled class of the program names another class of the library, nor makes a lambda. */
+    private static void library() throws IOException {
+        List<Class<?>> all = new ArrayList<>(List.of(WheelStands.class.getDeclaredClasses()));
+        all.add(WheelStands.class);
+        for (Class<?> c : all) {
+            try (DataInputStream in = new DataInputStream(c.getResourceAsStream("/" + c.getName() + ".class"))) {
+                for (String name : namedClasses(in)) {
+                    boolean own = name.startsWith("WheelStands") || name.startsWith("[");
+                    Due.yes(c.getName() + " may name " + name, own || LIBRARY.contains(name));
+                }
+            }
+        }
+    }
+
+    /** The classes in the constants of a class file; a lambda's constant is told as wrong. */
+    private static Set<String> namedClasses(DataInputStream in) throws IOException {
+        in.skipBytes(8);
+        int size = in.readUnsignedShort();
+        String[] texts = new String[size];
+        List<Integer> classes = new ArrayList<>();
+        for (int i = 1; i < size; i++) {
+            int tag = in.readUnsignedByte();
+            switch (tag) {
+                case 1: texts[i] = in.readUTF(); break;
+                case 7: classes.add(in.readUnsignedShort()); break;
+                case 5: case 6: in.skipBytes(8); i++; break;
+                case 8: case 16: case 19: case 20: in.skipBytes(2); break;
+                case 15: in.skipBytes(3); break;
+                case 17: case 18: Due.yes("no lambda and no text joined by +", false); in.skipBytes(4); break;
+                default: in.skipBytes(4); break;
+            }
+        }
+        Set<String> names = new TreeSet<>();
+        for (int at : classes) {
+            names.add(texts[at]);
+        }
+        return names;
     }
 
     /** No method of more than some sixty lines or of more than seven parameters. */
